@@ -67,11 +67,11 @@ public final class SettingTest {
 
     private static void file() {
         check.about("promise 3");
-        LoaderLab lab = new LoaderLab();
         for (int parts = -1; parts <= 729; parts++) {
             boolean fine = parts >= 0 && parts <= 728 && parts % 9 < 8;
-            check.due("parts " + parts, lab.file(1, 1, parts, 0), fine ? 0 : LoaderLab.REFUSED);
+            check.due("parts " + parts, new LoaderLab().file(1, 1, parts, 0), fine ? 0 : LoaderLab.REFUSED);
         }
+        LoaderLab lab = new LoaderLab();
         for (int marks = -1; marks <= 8; marks++) {
             boolean fine = marks >= 0 && marks <= 7;
             check.due("marks " + marks, lab.file(1, 1, 720, marks), fine ? 0 : LoaderLab.REFUSED);
