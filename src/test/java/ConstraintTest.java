@@ -4,8 +4,12 @@ public final class ConstraintTest {
 
     public static void main(String[] args) {
         wrongNumbers();
+        withItself();
         fromLoaderToLoader();
         brokenAtOnce();
+        brokenLeavesNothing();
+        onceMore();
+        everyPairOnEveryName();
         brokenByRecording();
         check.end();
     }
@@ -71,6 +75,79 @@ public final class ConstraintTest {
         check.due("behind one", lab.constrain(4, 3, 0), 0);
         check.due("and on", lab.constrain(4, 0, 0), LoaderLab.CONSTRAINT);
         check.due("pairs", lab.count(3), 5);
+    }
+
+    /** Loaders 0 and 1 agree, and 3 and 4; behind 1 and 4 stand different classes, so the two groups stay apart. */
+    private static void brokenLeavesNothing() {
+        check.about("promise 9, \"CONSTRAINT, and they need not\"");
+        LoaderLab lab = new LoaderLab();
+        lab.constrain(0, 1, 0);
+        lab.constrain(3, 4, 0);
+        lab.file(1, 0, Check.plain(0), 0);
+        lab.file(4, 0, Check.plain(0), 0);
+        check.due("load", lab.load(1, 0), 1);
+        check.due("load", lab.load(4, 0), 2);
+        for (int a = 0; a < 5; a++) {
+            for (int b = 0; b < 5; b++) {
+                boolean apart = a < 2 && b > 2 || a > 2 && b < 2;
+                if (a != 2 && b != 2) {
+                    int want = apart ? LoaderLab.CONSTRAINT : 0;
+                    check.due("constrain(" + a + ", " + b + ")", lab.constrain(a, b, 0), want);
+                    check.due("agree(" + a + ", " + b + ")", lab.agree(a, b, 0), !apart);
+                    check.due("pairs", lab.count(3), 2);
+                }
+            }
+        }
+        lab.script(0, 0, 2, 1);
+        check.due("0 is free to record what 1 did", lab.load(0, 0), 1);
+        lab.script(3, 0, 2, 4);
+        check.due("3 is free to record what 4 did", lab.load(3, 0), 2);
+        check.due("the one between, to one side", lab.constrain(2, 0, 0), 0);
+        check.due("the one between, to the other", lab.constrain(2, 3, 0), LoaderLab.CONSTRAINT);
+        check.due("the other side, on another name", lab.constrain(2, 3, 1), 0);
+    }
+
+    private static void onceMore() {
+        check.about("promise 9, where they agree already");
+        LoaderLab lab = Check.labWithFiles();
+        lab.script(1, 0, 2, 0);
+        for (int time = 0; time < 3; time++) {
+            check.due("constrain", lab.constrain(0, 1, 0), 0);
+            check.due("the other way round", lab.constrain(1, 0, 0), 0);
+            check.due("pairs", lab.count(3), 1);
+            check.due("load", lab.load(time % 2, 0), 1);
+        }
+    }
+
+    private static void withItself() {
+        check.about("promises 9 and 10, \"(a loader does with itself)\"");
+        LoaderLab lab = Check.labWithFiles();
+        for (int loader = 0; loader < 5; loader++) {
+            for (int name = 0; name < 8; name++) {
+                check.due("agree at first", lab.agree(loader, loader, name), true);
+                check.due("constrain", lab.constrain(loader, loader, name), 0);
+                check.due("agree", lab.agree(loader, loader, name), true);
+            }
+        }
+        check.due("pairs", lab.count(3), 0);
+        check.due("load", lab.load(0, 0), 1);
+        check.due("constrain, recorded", lab.constrain(0, 0, 0), 0);
+    }
+
+    private static void everyPairOnEveryName() {
+        check.about("promises 9, 10 and 16, every pair on every name");
+        for (int a = 0; a < 5; a++) {
+            for (int b = 0; b < 5; b++) {
+                LoaderLab lab = new LoaderLab();
+                for (int name = 0; name < 8; name++) {
+                    check.due("not yet", lab.agree(a, b, name), a == b);
+                    check.due("constrain", lab.constrain(a, b, name), 0);
+                    check.due("agree", lab.agree(a, b, name), true);
+                    check.due("the other way round", lab.agree(b, a, name), true);
+                    check.due("pairs", lab.count(3), a == b ? 0 : name + 1);
+                }
+            }
+        }
     }
 
     private static void brokenByRecording() {

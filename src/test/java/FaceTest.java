@@ -45,7 +45,8 @@ public final class FaceTest {
         for (Method each : LoaderLab.class.getDeclaredMethods()) {
             if (!Modifier.isPrivate(each.getModifiers())) {
                 String types = Arrays.toString(each.getParameterTypes());
-                found.add(each.getReturnType() + " " + each.getName() + "(" + types.substring(1, types.length() - 1) + ")");
+                String listed = types.substring(1, types.length() - 1);
+                found.add(each.getReturnType() + " " + each.getName() + "(" + listed + ")");
             }
         }
         return found;

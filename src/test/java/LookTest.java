@@ -6,10 +6,13 @@ public final class LookTest {
 
     public static void main(String[] args) {
         recorded();
+        recordedAtTheCorners();
         of();
         isA();
         isALong();
+        isANone();
         count();
+        countOfAFullLab();
         check.end();
     }
 
@@ -29,6 +32,30 @@ public final class LookTest {
         }
         check.due("loader 5", lab.recorded(5, 0), LoaderLab.REFUSED);
         check.due("name 8", lab.recorded(0, 8), LoaderLab.REFUSED);
+    }
+
+    /** The first and the last loader, the first and the last name: each cell is found alone. */
+    private static void recordedAtTheCorners() {
+        check.about("promise 13, the corners");
+        for (int loader = 0; loader < 5; loader += 4) {
+            for (int name = 0; name < 8; name += 7) {
+                LoaderLab lab = Prepare.filesEverywhere();
+                check.due("load", lab.load(loader, name), 1);
+                for (int cell = 0; cell < 40; cell++) {
+                    boolean here = cell / 8 == loader && cell % 8 == name;
+                    check.due("recorded", lab.recorded(cell / 8, cell % 8), here ? 1 : 0);
+                }
+                for (int wrong : Prepare.NO_NAMES) {
+                    check.due("name " + wrong, lab.recorded(loader, wrong), LoaderLab.REFUSED);
+                }
+                for (int wrong : Prepare.NO_LOADERS) {
+                    check.due("loader " + wrong, lab.recorded(wrong, name), LoaderLab.REFUSED);
+                }
+                // Eight names on and one loader back it would be the same cell, if names went on into the next loader.
+                check.due("beside", lab.recorded(loader - 1, name + 8), LoaderLab.REFUSED);
+                check.due("beside", lab.recorded(loader + 1, name - 8), LoaderLab.REFUSED);
+            }
+        }
     }
 
     private static void of() {
@@ -90,6 +117,23 @@ public final class LookTest {
         }
     }
 
+    /** No superclass and no interface are told as 0: that is no class that anything could be. */
+    private static void isANone() {
+        check.about("promise 15, \"false for others\"");
+        LoaderLab lab = Check.labWithFiles();
+        lab.load(0, 0);
+        lab.load(0, 1);
+        for (int number = 1; number <= 2; number++) {
+            check.due("itself", lab.isA(number, number), true);
+            check.due("the other", lab.isA(number, 3 - number), false);
+            for (int none : new int[] {Integer.MIN_VALUE, -1, 0, 3, 30, 31, 32, 32 + number, Integer.MAX_VALUE}) {
+                check.due("isA(" + number + ", " + none + ")", lab.isA(number, none), false);
+                check.due("isA(" + none + ", " + number + ")", lab.isA(none, number), false);
+                check.due("isA(" + none + ", " + none + ")", lab.isA(none, none), false);
+            }
+        }
+    }
+
     /** Thirty classes, each on top of the one before: eight names in each loader, then the next loader's first. */
     private static void isALong() {
         check.about("promise 15, thirty in a row");
@@ -138,5 +182,32 @@ public final class LookTest {
         lab.noFile(0, 3);
         check.due("files, one less", lab.count(2), 8);
         check.due("classes stay", lab.count(0), 3);
+    }
+
+    private static void countOfAFullLab() {
+        check.about("promise 16, all that there can be");
+        LoaderLab lab = Prepare.filesEverywhere();
+        check.due("files", lab.count(2), 40);
+        for (int name = 0; name < 8; name++) {
+            for (int loader = 4; loader > 0; loader--) {
+                check.due("constrain", lab.constrain(loader, loader - 1, name), 0);
+                lab.script(loader, name, 2, loader - 1);
+            }
+            check.due("load", lab.load(4, name), name + 1);
+            check.due("recorded", lab.count(1), 5 * (name + 1));
+            check.due("pairs", lab.count(3), 10 * (name + 1));
+        }
+        check.due("classes", lab.count(0), 8);
+        LoaderLab other = new LoaderLab();
+        Prepare.fill(other, 30);
+        check.due("classes", other.count(0), 30);
+        check.due("recorded, one of them", other.count(1), 1);
+        check.due("load", other.load(3, 6), LoaderLab.FULL);
+        check.due("classes", other.count(0), 30);
+        for (int cell = 0; cell < 40; cell++) {
+            check.due("noFile", lab.noFile(cell / 8, cell % 8), 0);
+            check.due("files", lab.count(2), 39 - cell);
+        }
+        check.due("recorded, without a file", lab.count(1), 40);
     }
 }

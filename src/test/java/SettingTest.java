@@ -6,8 +6,10 @@ public final class SettingTest {
 
     public static void main(String[] args) {
         newObject();
+        objectsShareNothing();
         parent();
         file();
+        leastAndGreatestFile();
         noFile();
         script();
         check.end();
@@ -33,10 +35,38 @@ public final class SettingTest {
                 check.due("requests without a parent", lab.requests(), 1);
             }
         }
-        check.due("of(1, 0)", lab.of(1, 0), LoaderLab.REFUSED);
-        LoaderLab other = new LoaderLab();
-        other.file(0, 0, Check.plain(0), 0);
-        check.due("objects share nothing", lab.count(2), 0);
+        for (int number = 0; number <= 31; number++) {
+            check.due("of", lab.of(number, 0), LoaderLab.REFUSED);
+            check.due("isA", lab.isA(number, number), false);
+            check.due("refer", lab.refer(number, 0, 0), LoaderLab.REFUSED);
+            check.due("resolve", lab.resolve(number, 0), LoaderLab.REFUSED);
+        }
+    }
+
+    private static void objectsShareNothing() {
+        check.about("promise 1, two objects");
+        LoaderLab full = Prepare.filesEverywhere();
+        LoaderLab lab = new LoaderLab();
+        full.parent(4, 0);
+        full.script(3, 3, 5, 0);
+        full.constrain(0, 1, 0);
+        full.load(4, 0);
+        full.refer(1, 0, 1);
+        full.resolve(1, 0);
+        full.load(3, 3);
+        for (int what = 0; what < 4; what++) {
+            check.due("count(" + what + ")", lab.count(what), 0);
+        }
+        check.due("cause", lab.cause(0), LoaderLab.REFUSED);
+        check.due("requests", lab.requests(), 0);
+        check.due("recorded", lab.recorded(4, 0), 0);
+        check.due("of", lab.of(1, 5), LoaderLab.REFUSED);
+        check.due("agree", lab.agree(0, 1, 0), false);
+        check.due("load, no parent and no file", lab.load(4, 0), LoaderLab.NOT_FOUND);
+        check.due("requests", lab.requests(), 1);
+        check.due("load, no script", lab.load(3, 3), LoaderLab.NOT_FOUND);
+        check.due("the full one's load", full.load(3, 3), LoaderLab.DENIED);
+        check.due("requests of the other", lab.requests(), 1);
     }
 
     private static void parent() {
@@ -92,6 +122,26 @@ public final class SettingTest {
         check.due("a file does not change the class", lab.file(1, 1, Check.plain(1), 3), 0);
         check.due("marks of the class", lab.of(1, 4), 0);
         check.due("load again", lab.load(1, 1), 1);
+    }
+
+    /** The parts 0 are a file too, that says 0 and stands on the name 0; 727 is the last that says a name. */
+    private static void leastAndGreatestFile() {
+        check.about("promise 3, \"0 .. 728 with says 0 .. 7\"");
+        LoaderLab lab = new LoaderLab();
+        check.due("parts 0", lab.file(0, 0, 0, 0), 0);
+        check.due("files", lab.count(2), 1);
+        check.due("load", lab.load(0, 0), LoaderLab.CIRCULAR);
+        lab.script(0, 0, 1, 0);
+        check.due("load by OWN", lab.load(0, 0), LoaderLab.CIRCULAR);
+        check.due("noFile", lab.noFile(0, 0), 0);
+        check.due("load without it", lab.load(0, 0), LoaderLab.NOT_FOUND);
+        check.due("parts 728", lab.file(4, 7, 728, 0), LoaderLab.REFUSED);
+        check.due("files", lab.count(2), 0);
+        check.due("parts 727", lab.file(4, 7, 727, 3), 0);
+        check.due("load", lab.load(4, 7), 1);
+        check.due("superclass", lab.of(1, 2), 0);
+        check.due("interface", lab.of(1, 3), 0);
+        check.due("marks", lab.of(1, 4), 3);
     }
 
     private static void noFile() {
