@@ -16,6 +16,8 @@ public final class LoadTest {
         refusedCallsLeaveTheLastOne();
         full();
         deep();
+        deepByWay(3);
+        deepByWay(6);
         check.end();
     }
 
@@ -319,5 +321,26 @@ public final class LoadTest {
         lab.file(4, 7, Check.plain(7), 0);
         load(lab, 0, 0, LoaderLab.FULL, 40);
         check.due("classes", lab.count(0), 30);
+    }
+
+    /** Down the loaders by PARENT, on to the next name, up the loaders by ASK, on to the next name, and so on. */
+    private static void deepByWay(int onward) {
+        check.about("promise 6, the deepest requests, onward by the way " + onward);
+        LoaderLab lab = new LoaderLab();
+        for (int loader = 1; loader < 5; loader++) {
+            lab.parent(loader, loader - 1);
+        }
+        for (int name = 0; name < 8; name++) {
+            boolean down = name % 2 == 0;
+            for (int loader = 0; loader < 4 && !down; loader++) {
+                lab.script(loader, name, 2, loader + 1);
+            }
+            lab.script(down ? 0 : 4, name, onward, (name + 1) % 8);
+        }
+        load(lab, 4, 0, LoaderLab.STUCK, 41);
+        lab.script(4, 7, 5, 0);
+        load(lab, 4, 0, LoaderLab.DENIED, 40);
+        lab.script(4, 7, 4, 0);
+        load(lab, 4, 0, LoaderLab.NO_CLASS, 40);
     }
 }
